@@ -145,14 +145,23 @@ public final class CarbonDates {
         needSample(a);
         needSample(b);
         needArgument(a != b && least >= 0 && least <= most && most <= LAST_YEAR);
-        return oneRuleMore(BEFORE, a, b, least, most);
+        needRoomForRule();
+        keepForUndo();
+        told.addRule(BEFORE, a, b, least, most);
+        renew();
+        return told.rules - 1;
     }
 
     public int bounds(int sample, int what, int year)
             throws NoSuchElementException, IllegalArgumentException, IllegalStateException {
         needSample(sample);
         needArgument((what == AFTER || what == UNTIL) && isYear(year));
-        return oneRuleMore(what, sample, NONE, year, NONE);
+        needRoomForRule();
+        keepForUndo();
+        // what is the rule's kind
+        told.addRule(what, sample, NONE, year, NONE);
+        renew();
+        return told.rules - 1;
     }
 
     public int drop(int rule) throws NoSuchElementException {
@@ -365,6 +374,12 @@ public final class CarbonDates {
     }
 
     public int shifted() {
+        // where the rules leave none of all years there are, no reserve need be tried
+        supposed.openAll();
+        supposed.run(NONE, true);
+        if (supposed.hasClash()) {
+            return NO_RESERVE;
+        }
         for (int far = 0; far <= MOST_RESERVE; far++) {
             if (goesBy(told.sigma, -far)) {
                 return -far;
@@ -455,14 +470,6 @@ public final class CarbonDates {
         }
         past[undos].copyFrom(told);
         undos++;
-    }
-
-    private int oneRuleMore(int kind, int a, int b, int least, int most) {
-        needRoomForRule();
-        keepForUndo();
-        told.addRule(kind, a, b, least, most);
-        renew();
-        return told.rules - 1;
     }
 
     private void renew() {
@@ -750,21 +757,19 @@ public final class CarbonDates {
         void layFirst(int sigma, int reserve) {
             for (int s = 0; s < told.samples; s++) {
                 Sample sample = told.sample[s];
-                int least = NONE;
-                for (int year = 0; year < YEARS; year++) {
-                    int misfit = misfitOf(sample, year, reserve);
-                    misfits[year] = misfit;
-                    if (misfit != NONE && (least == NONE || misfit < least)) {
-                        least = misfit;
-                    }
-                }
-                int most = sample.isRings ? least + sigma * sample.ageOrSlack : sigma * sample.errorOrRings;
                 Years.clear(first[s]);
-                for (int year = 0; year < YEARS; year++) {
-                    if (misfits[year] != NONE && misfits[year] <= most) {
-                        Years.put(first[s], year);
-                    }
+                if (sample.isRings) {
+                    layRings(sample, first[s], sigma * sample.ageOrSlack, reserve);
+                } else {
+                    int middle = sample.ageOrSlack - reserve;
+                    layDated(first[s], middle - sigma * sample.errorOrRings, middle + sigma * sample.errorOrRings);
                 }
+            }
+        }
+
+        void openAll() {
+            for (int s = 0; s < told.samples; s++) {
+                Years.putAll(first[s], 0, LAST_YEAR);
             }
         }
 
@@ -883,6 +888,31 @@ public final class CarbonDates {
                 return NONE;
             }
             return what == 3 ? Math.max(0, greatestEarliest - leastLatest) : latest - earliest;
+        }
+
+        // by ages, not by misfits: shifted() has this done a thousand times
+        private void layDated(long[] into, int least, int most) {
+            for (int year = 0; year < YEARS; year++) {
+                int age = ages[year];
+                if (age >= least && age <= most && age != NONE) {
+                    Years.put(into, year);
+                }
+            }
+        }
+
+        private void layRings(Sample sample, long[] into, int slack, int reserve) {
+            int least = Integer.MAX_VALUE - slack;
+            for (int year = 0; year < YEARS; year++) {
+                misfits[year] = misfitOf(sample, year, reserve);
+                if (misfits[year] != NONE && misfits[year] < least) {
+                    least = misfits[year];
+                }
+            }
+            for (int year = 0; year < YEARS; year++) {
+                if (misfits[year] != NONE && misfits[year] <= least + slack) {
+                    Years.put(into, year);
+                }
+            }
         }
 
         private void startFromFirst() {

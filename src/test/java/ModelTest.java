@@ -130,7 +130,7 @@ public final class ModelTest {
             case 4:
             case 5:
                 int least = Integer.parseInt(wide) / 3;
-                String numbers = once(3) ? "" : once(2) ? " " + least : " " + least + " " + (least + within(once(20) ? -1 : 0, 60));
+                String numbers = once(3) ? "" : once(2) ? " " + least : " " + least + " " + (least + (once(3) ? 0 : within(once(20) ? -1 : 0, 60)));
                 return "before " + two(false) + numbers + ";";
             case 6:
                 return "same " + two(false) + ";";
@@ -330,7 +330,7 @@ public final class ModelTest {
             case 3:
             case 4:
                 int least = within(once(20) ? -1 : 0, once(5) ? 500 : 30);
-                call(5, aSample(), aSample(), least, once(3) ? 999 : least + within(once(20) ? -1 : 0, 80));
+                call(5, aSample(), aSample(), least, once(3) ? 999 : least + (once(3) ? 0 : within(once(20) ? -1 : 0, 80)));
                 break;
             case 5:
                 call(6, aSample(), once(20) ? 1 : within(2, 3), aYear());

@@ -133,9 +133,26 @@ public final class PromisesTest {
         due("3 nothing can be taken back", x.told(10), 0);
         due("3 nothing is taken back", x.undo(), -1);
         due("4 the fault is gone", x.fault(), -1);
+        due("3 sigma once in each text", Desks.tell(x, PLAIN + "sigma 2;reserve 1;"), 0);
+        due("3 sigma once in each text", Desks.tell(x, PLAIN + "sigma 3;reserve 2;"), 0);
+        due("3 sigma of the latest", x.told(4) * 10 + x.told(5), 32);
+        due("3 sigma once in each text", Desks.tell(x, PLAIN + "sigma 3;reserve 2;!"), 1 - 10);
+        due("3 sigma once in each text", Desks.tell(x, PLAIN + "reserve 3;sigma 1;"), 0);
+        endsEarly("curve 0 1,2 34;", 13);
+        endsEarly("curve 0 1,2 3   ;", 13);
+        endsEarly("curves 0 1,2 3;", 5);
+        endsEarly("curve 0 1,2 3;", 13);
         illegal("3 a byte of an empty tape", () -> x.text(1));
         due("3 no byte", x.text(0), 1 - 10);
         due("4 no byte", x.fault(), 0);
+    }
+
+    /** What stands on the tape behind the first n bytes is not of the text. */
+    private static void endsEarly(String onTape, int n) {
+        CarbonDates x = new CarbonDates();
+        Desks.feed(x, onTape);
+        due("3 " + n + " bytes of " + onTape, x.text(n), 1 - 10);
+        due("4 " + n + " bytes of " + onTape, x.fault(), n);
     }
 
     private static void text(String text, int fault, int place) {
@@ -255,6 +272,10 @@ public final class PromisesTest {
         text("curve 0 1,2 3;sample a1 1;before", 1, 32);
         more("nothing 1;", 1, 0);
         more("curves 1;", 1, 0);
+        more("zample a 1 1;", 1, 0);
+        more("sampla a 1 1;", 1, 0);
+        moreIsFine("rings r 0 0 0;reserve 0;sample a 0 0;", 2);
+        moreIsFine("reserve -0;", 0);
         more(";", 1, 0);
         more("sample a 1;", 1, 10);
         more("sample a 1 1 1;", 1, 13);
@@ -475,6 +496,10 @@ public final class PromisesTest {
         due("13 none", x.years(9999, 0), 0);
         due("13 none", x.years(6, 1), -1);
         due("13 none", x.years(6, 2), -1);
+        CarbonDates ends = Desks.desk("curve 0 7,5 3,994 3,999 7;");
+        due("13 at the first year", ends.years(7, 1), 0);
+        due("13 at the last year", ends.years(7, 2), 999);
+        due("13 with the second, as quotients are cut", ends.years(7, 0), 3);
         illegal("13 age", () -> x.years(-1, 0));
         illegal("13 age", () -> x.years(10000, 0));
         illegal("13 what", () -> x.years(0, 3));
@@ -552,6 +577,7 @@ public final class PromisesTest {
         due("16 its last", x.interval(0, 1, 1), 158);
         due("16 one year", x.interval(1, 0, 0) + x.interval(1, 0, 1), 200);
         due("16 at the first year", x.interval(2, 0, 1), 0);
+        due("15 at the first year", x.sample(2, 7), 2);
         noSuch("16 third", () -> x.interval(0, 2, 0));
         noSuch("16 below 0", () -> x.interval(0, -1, 0));
         noSuch("16 far off", () -> x.interval(0, Integer.MAX_VALUE, 0));
@@ -632,6 +658,7 @@ public final class PromisesTest {
         due("narrowing: first", x.interval(1, 0, 0) * 1000 + x.interval(1, 0, 1), 51057);
         due("narrowing: second", x.interval(1, 1, 0) * 1000 + x.interval(1, 1, 1), 151157);
 
+        gaps();
         x = Desks.desk(PLAIN + "sample a 100 10;sample b 100 20;sample c 95 10;phase p a b;phase q c;order p q 3;");
         span(x, 0, 90, 102);
         span(x, 1, 80, 102);
@@ -647,6 +674,35 @@ public final class PromisesTest {
         due("narrowing: with itself, 1 at least", x.rule(0, 5), 42);
         due("narrowing: clash", x.clash(0) * 10 + x.clash(1), 0);
         due("narrowing: rounds go on", x.told(8), 2);
+    }
+
+    private static void gap(String part, int yearsOfA, int yearsOfB) {
+        CarbonDates x = Desks.desk("curve 0 100,100 0,200 100;sample a 50 0;sample b 0 100;" + part);
+        due("narrowing: a by " + part, x.sample(0, 4), yearsOfA);
+        due("narrowing: b by " + part, x.sample(1, 4), yearsOfB);
+    }
+
+    // a is of the years 50 and 150, b of 0 to 200
+    private static void gaps() {
+        gap("before a b 0 98;", 2, 99 + 51);
+        gap("before a b 0 99;", 2, 100 + 51);
+        gap("before a b 3 101;", 2, 99 + 48);
+        gap("before a b 50 50;", 2, 2);
+        gap("before a b 51 51;", 1, 1);
+        gap("before a b 50;", 2, 101);
+        gap("before a b 60;", 1, 91);
+        gap("before b a 0 98;", 2, 51 + 99);
+        gap("before b a 0 99;", 2, 51 + 100);
+        gap("before b a 50 50;", 2, 2);
+        gap("same b a;", 2, 2);
+        gap("phase p a b;lasts p 49;", 2, 99 + 99);
+        gap("phase p b a;lasts p 50;", 2, 201);
+        gap("phase p b;phase q a;order p q 100;", 1, 51);
+
+        CarbonDates x = Desks.desk("curve 0 0,10 10,11 500,12 12,40 40;sample a 15 10;sample b 20 20;before a b 5 5;");
+        due("narrowing: a gap of one year", x.sample(0, 4) * 100 + x.sample(1, 4), 1919);
+        x = Desks.desk("curve 0 0,10 10,11 500,12 500,13 13,40 40;sample a 15 10;sample b 20 20;before a b 5 5;");
+        due("narrowing: a gap of two years", x.sample(0, 4) * 100 + x.sample(1, 4), 1717);
     }
 
     // promise 20
@@ -694,6 +750,8 @@ public final class PromisesTest {
         CarbonDates x = Desks.desk(PLAIN + "sample a 100 5;after a 98;after a 97;until a 200;after a 98;until a 101;");
         due("22 needless", x.needless(), 1 | 2 | 4 | 8);
         due("22 nothing stays changed", x.sample(0, 4), 4);
+        due("22 early years", Desks.desk(PLAIN + "sample a 30 5;after a 28;until a 40;").needless(), 2);
+        due("22 late years", Desks.desk(PLAIN + "sample a 990 9;after a 996;until a 999;").needless(), 2);
         x = Desks.desk(PLAIN + "sample a 100 5;until a 98;after a 99;after a 120;");
         due("22 alike ones that are empty", x.needless(), 7);
         x = Desks.desk(PLAIN + "sample a 100 5;sample b 100 5;same a b;after a 98;after b 99;");
@@ -773,6 +831,8 @@ public final class PromisesTest {
         noSuch("26 phase ahead", () -> x.phase(-1, 5));
         illegal("26 what", () -> x.phase(0, 5));
         illegal("26 what", () -> x.phase(0, -1));
+
+        due("26 at the first year", Desks.desk(PLAIN + "sample a 0 0;sample b 0 5;phase p a b;").phase(0, 3), 0);
 
         due("27 as told", x.member(0, 0) * 100 + x.member(0, 1) * 10 + x.member(0, 2), 102);
         due("27 not so many", x.member(0, 3), -1);
@@ -864,6 +924,12 @@ public final class PromisesTest {
     private static void shifted() {
         due("31 by a reserve below 0", Desks.desk(PLAIN + "sample a 100 5;after a 200;").shifted(), -95);
         due("31 by one above 0", Desks.desk(PLAIN + "sample a 300 5;until a 200;").shifted(), 95);
+        due("31 by one", Desks.desk(PLAIN + "sample a 300 5;until a 294;").shifted(), 1);
+        due("31 by one below 0", Desks.desk(PLAIN + "sample a 300 5;after a 306;").shifted(), -1);
+        due("31 by no reserve, by the rules alone",
+                Desks.desk(PLAIN + "sample a 300 5;sample b 300 5;before a b 1;before b a;").shifted(), -9999);
+        due("31 the rules leave the first year alone",
+                Desks.desk(PLAIN + "sample a 500 0;until a 0;").shifted(), 500);
         due("31 as it is", Desks.desk(PLAIN + "sample a 200 5;after a 200;").shifted(), 0);
         due("31 nearest to 0, not to what it is",
                 Desks.desk(PLAIN + "sample a 100 5;after a 200;reserve -200;").shifted(), -95);

@@ -133,6 +133,15 @@ public final class PromisesTest {
         due("3 nothing can be taken back", x.told(10), 0);
         due("3 nothing is taken back", x.undo(), -1);
         due("4 the fault is gone", x.fault(), -1);
+        due("3 told anew: samples, phases, rules", Desks.tell(x,
+                PLAIN + "sample a 1 1;sample b 1 1;phase p a b;phase q a;before a b;lasts p 5;"), 2);
+        due("3 told anew: samples, phases, rules", Desks.tell(x, PLAIN + "rings b 1 0 1;phase q b;after b 1;"), 1);
+        due("3 phases", x.told(2) * 10 + x.told(3), 11);
+        due("3 a phase of fewer", x.phase(0, 0), 1);
+        due("3 rings, where a date was", x.sample(0, 0), 1);
+        due("3 a date, where rings were", Desks.tell(x, PLAIN + "sample b 1 1;"), 1);
+        due("3 a date, where rings were", x.sample(0, 0), 0);
+        due("3 phases", x.told(2) * 10 + x.told(3), 0);
         due("3 sigma once in each text", Desks.tell(x, PLAIN + "sigma 2;reserve 1;"), 0);
         due("3 sigma once in each text", Desks.tell(x, PLAIN + "sigma 3;reserve 2;"), 0);
         due("3 sigma of the latest", x.told(4) * 10 + x.told(5), 32);
@@ -180,6 +189,9 @@ public final class PromisesTest {
     private static void textNames() {
         moreIsFine("sample curve 1 1;sample sigma 1 1;phase phase sigma curve;", 2);
         moreIsFine("sample abcdef 1 1;", 1);
+        moreIsFine("sample a 1 1;sample aa 1 1;sample ab 1 1;sample ba 1 1;sample az 1 1;sample b 1 1;sample za 1 1;"
+                + "sample abcdef 1 1;sample abcdeg 1 1;sample bbcdef 1 1;sample abcde 1 1;sample zzzzzz 1 1;"
+                + "before abcdeg zzzzzz;phase p aa ab ba a az za;", 12);
         more("sample abcdefg 1 1;", 1, 7);
         more("sample 7 1 1;", 1, 7);
         more("sample A 1 1;", 1, 7);
@@ -360,6 +372,10 @@ public final class PromisesTest {
     private static void before() {
         CarbonDates x = Desks.desk(PLAIN + "sample a 500 10;sample b 505 10;");
         due("7 its number", x.before(0, 1, 0, 0), 0);
+        due("10 before is taken back", x.undo(), 0);
+        due("10 no rule is left", x.told(3), 0);
+        due("10 spans are as they were", x.told(7), 42);
+        due("7 its number again", x.before(0, 1, 0, 0), 0);
         due("7 its number", x.before(1, 0, 0, 999), 1);
         due("7 spans", x.told(7), 32);
         noSuch("7 no such sample", () -> x.before(2, 0, 0, 0));
@@ -561,6 +577,8 @@ public final class PromisesTest {
         due("15 sigma times slack", x.sample(0, 4), 7);
         x.set(1, 5);
         due("15 reserve", x.sample(0, 8), 110);
+        due("15 rings at the first year", Desks.desk(PLAIN + "rings r 0 0 0,5 5;").sample(0, 4), 1);
+        due("15 the best year is the first", Desks.desk(PLAIN + "sample a 0 5;").sample(0, 8), 0);
         due("15 a least misfit above 0", Desks.desk(PLAIN + "rings r 0 0 5,1 5;").sample(0, 9), 1);
         CarbonDates late = Desks.desk(PLAIN + "rings r 0 0 900,300 900;");
         due("17 a ring behind the last year", late.misfit(0, 700), -1);
@@ -582,6 +600,7 @@ public final class PromisesTest {
         noSuch("16 below 0", () -> x.interval(0, -1, 0));
         noSuch("16 far off", () -> x.interval(0, Integer.MAX_VALUE, 0));
         noSuch("16 sample", () -> x.interval(3, 0, 0));
+        noSuch("16 sample", () -> x.interval(-1, 0, 0));
         noSuch("16 ahead", () -> x.interval(0, 2, 2));
         illegal("16 what", () -> x.interval(0, 1, 2));
         illegal("16 what", () -> x.interval(0, 1, -1));
@@ -721,6 +740,11 @@ public final class PromisesTest {
         CarbonDates y = x;
         illegal("20 what", () -> y.clash(2));
         illegal("20 what", () -> y.clash(-1));
+        x.bounds(0, 3, 0);
+        due("20 until the first year", x.clash(0), 1);
+        x.undo();
+        due("20 none again", x.clash(0), -2);
+        due("20 none again", x.clash(1), -2);
         x.bounds(0, 3, 50);
         due("20 rule", x.clash(0), 1);
         due("20 sample", x.clash(1), 0);
@@ -806,6 +830,8 @@ public final class PromisesTest {
         due("25 nothing stays changed", x.told(7), 7);
         x.drop(2);
         due("25 none without the rule", x.doomed(0), 0);
+        due("25 the first and the last year",
+                Desks.desk("curve 0 5,1 6,998 6,999 5;sample a 5 0;sample b 9999 0;").doomed(0), 2);
         CarbonDates y = Desks.desk(PLAIN + "sample a 100 1;sample b 9999 0;");
         due("25 another is empty", y.doomed(0), 3);
         due("25 it is empty itself", y.doomed(1), 0);
@@ -856,6 +882,7 @@ public final class PromisesTest {
         due("28 all were tried", x.trial(1), 7 + 7 * 7);
         due("29 none", x.tried(0), -1);
         CarbonDates y = x;
+        due("29 asked ahead of trial()", Desks.desk(PLAIN + "sample a 100 3;").tried(0), 97);
         illegal("28 what", () -> y.trial(2));
         illegal("28 what", () -> y.trial(-1));
         noSuch("29 sample", () -> y.tried(3));
@@ -952,6 +979,7 @@ public final class PromisesTest {
             sum = 31 * sum + part;
         }
         due("32 print", x.print(), sum);
+        due("32 the first year", Desks.desk(PLAIN + "sample a 0 1;").print(), 31);
         due("32 nothing", new CarbonDates().print(), 0);
         x = Desks.desk(PLAIN + "sample a 999 0;" + "sample b 999 0;sample c 999 0;sample d 999 0;sample e 999 0;");
         sum = 0;

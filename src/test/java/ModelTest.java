@@ -4,7 +4,10 @@ import java.util.NoSuchElementException;
 public final class ModelTest {
     private static final String[] NAMES = {"a", "b", "c", "d", "e", "f", "rings", "curve", "order", "abcdef", "p", "q",
         "r", "s", "sigma", "x", "phase"};
+    /** What later calls answer is free. */
+    private static final int MOST_CALLS = 512;
     private long seed;
+    private int calls = 0;
     private final StringBuilder story = new StringBuilder();
 
     private ModelTest(long seed) {
@@ -12,7 +15,7 @@ public final class ModelTest {
     }
 
     public static void main(String[] args) {
-        int runs = args.length > 0 ? Integer.parseInt(args[0]) : 150;
+        int runs = args.length > 0 ? Integer.parseInt(args[0]) : 300;
         int from = args.length > 1 ? Integer.parseInt(args[1]) : 0;
         for (int run = from; run < from + runs && Desks.wrong == 0; run++) {
             new ModelTest(run).run();
@@ -272,6 +275,10 @@ public final class ModelTest {
     private final Model model = new Model();
 
     private void call(int f, int... p) {
+        calls++;
+        if (calls > MOST_CALLS) {
+            return;
+        }
         String want = answer((g, q) -> byModel(model, g, q), f, p);
         String got = answer((g, q) -> byClass(desk, g, q), f, p);
         story.append(CALLS[f]).append(java.util.Arrays.toString(p)).append(" -> ").append(want).append('\n');
@@ -404,7 +411,7 @@ public final class ModelTest {
         for (int told = within(1, 4); told > 0 && Desks.wrong == 0; told--) {
             tellText();
             askAll();
-            for (int k = within(1, 25); k > 0 && Desks.wrong == 0; k--) {
+            for (int k = within(1, 25); k > 0 && calls < MOST_CALLS && Desks.wrong == 0; k--) {
                 if (once(3)) {
                     change();
                     askAll();

@@ -18,6 +18,7 @@ public final class EdgesOfCallsTest {
         drop();
         undo();
         told();
+        asMuchAsThereCanBe();
         age();
         years();
         knot();
@@ -415,6 +416,76 @@ public final class EdgesOfCallsTest {
         });
 
         whats("promise 11", 11, CarbonDates::told);
+    }
+
+    /** 12 samples of all years, 4 phases of 6 of them each, 24 rules that take out none. */
+    private static CarbonDates all() {
+        StringBuilder lines = new StringBuilder();
+        for (char name = 'a'; name < 'a' + 12; name++) {
+            lines.append("sample ").append(name).append(" 500 999;");
+        }
+        CarbonDates x = Edge.plain(lines + "phase p a b c d e f;phase q g h i j k l;phase r f e d c b a;phase s l k j i h g;"
+                + "order p q;lasts p 999;lasts s 999;");
+        for (int rule = 3; rule < 24; rule++) {
+            x.bounds(11, 2, 0);
+        }
+        return x;
+    }
+
+    private static void asMuchAsThereCanBe() {
+        Edge.sentence("promises 11 to 32, Terms 1", "RULES, numbered from 0 on (24 at most)", () -> {
+            CarbonDates x = all();
+            Edge.due("rules", x.told(3), 24);
+            Edge.due("years", x.told(7), 12000);
+            Edge.due("gone", x.told(9), 0);
+            Edge.due("blame", x.blame(), 0);
+            Edge.due("needless", x.needless(), (1 << 24) - 1);
+            Edge.due("without the first", x.without(0, 0), 12000);
+            Edge.due("without the last", x.without(23, 0), 12000);
+        });
+
+        Edge.sentence("promises 11 to 32, Terms 1", "SAMPLES, numbered from 0 on (12 at most), have a NAME.", () -> {
+            CarbonDates x = all();
+            Edge.due("the first pinned at the last year", x.pinned(0, 999, 0), 1 + 5 * 1000 + 6);
+            Edge.due("the last pinned at the last year", x.pinned(11, 999, 0), 11000 + 1);
+            Edge.due("the last pinned at the first year", x.pinned(11, 0, 0), 6 + 5 * 1000 + 1);
+            Edge.due("doomed of the first", x.doomed(0), 0);
+            Edge.due("doomed of the last", x.doomed(11), 0);
+            Edge.due("trial", x.trial(0), 1);
+            Edge.due("looks", x.trial(1), 12);
+            Edge.due("tried", x.tried(11), 0);
+            Edge.due("loosened", x.loosened(), 1);
+            Edge.due("shifted", x.shifted(), 0);
+            x.redate(11, 9999, 0);
+            Edge.due("the last empty: all are", x.told(8), 12);
+            Edge.due("the last empty: clash", x.clash(1), 11);
+            Edge.due("the last empty: blame", x.blame(), 0);
+            Edge.due("the last empty: needless", x.needless(), (1 << 24) - 2);
+            Edge.due("the last empty, without the order", x.without(0, 0), 6000);
+            Edge.due("the last empty: trial", x.trial(0), 0);
+            Edge.due("the last empty: shifted", x.shifted(), -9999);
+            Edge.due("the last empty: loosened", x.loosened(), NONE);
+        });
+
+        Edge.sentence("promises 26 and 27, Terms 1", "PHASES, numbered likewise (4 at most), have a NAME and 1 to 6 SAMPLES, none twice.", () -> {
+            CarbonDates x = all();
+            int[] dues = {6, 0, 999, 0, 999};
+            for (int what = 0; what < dues.length; what++) {
+                Edge.due("the first, " + what, x.phase(0, what), dues[what]);
+                Edge.due("the last, " + what, x.phase(3, what), dues[what]);
+            }
+            Edge.due("the last of the last", x.member(3, 5), 6);
+            // six of one year each, in order or not, and no more than so many years apart
+            String six = "sample a 500 0;sample b 501 0;sample c 502 0;sample d 503 0;sample e 504 0;sample f 505 0;sample g 505 0;"
+                    + "phase p a b c d e f;phase q g;phase r f e d c b a;phase s a;";
+            Edge.due("lasts", Edge.plain(six + "lasts p 5;lasts r 5;").told(8), 0);
+            Edge.due("lasts less", Edge.plain(six + "lasts p 4;").clash(1), 5);
+            Edge.due("lasts less, the other way round", Edge.plain(six + "lasts r 4;").clash(1), 0);
+            Edge.due("order of six and one", Edge.plain(six + "order p q;").told(8), 0);
+            Edge.due("order of six and one, too far", Edge.plain(six + "order p q 1;").clash(1), 6);
+            Edge.due("order of one and six", Edge.plain(six + "order s p;").told(8), 0);
+            Edge.due("order of one and six, too far", Edge.plain(six + "order q r;").clash(1), 4);
+        });
     }
 
     // ---- promises 12 to 14

@@ -312,6 +312,18 @@ public final class EdgesOfTermsTest {
             Edge.due("two rules in order", Edge.plain("sample a 100 5;sample b 100 5;after a 96;same a b;").told(6), 2);
             Edge.due("two rules, the second for the first",
                     Edge.plain("sample a 100 5;sample b 100 5;same a b;after a 96;").told(6), 3);
+            // twelve in a ring, told so that what goes gets on by two samples a round: about six rounds for the first year
+            // and the last one of all; the plain model comes to as many
+            StringBuilder lines = new StringBuilder();
+            for (int k = 0; k < 12; k++) {
+                lines.append("sample ").append((char) ('a' + k)).append(" 500 999;");
+            }
+            for (int k : new int[] {0, 2, 4, 6, 8, 10, 1, 3, 5, 7, 9}) {
+                lines.append("before ").append((char) ('a' + k)).append(' ').append((char) ('b' + k)).append(';');
+            }
+            CarbonDates ring = Edge.plain(lines + "before l a 1;");
+            Edge.due("of a ring of twelve", ring.told(6), 3002);
+            Edge.due("years gone of a ring of twelve", ring.told(9), 12000);
             // in each round the first year and the last one of a and of b go
             Edge.due("500 that take out all, and one", Edge.plain("sample a 500 999;sample b 500 999;before a b 1;before b a;").told(6), 501);
         });
